@@ -878,7 +878,7 @@ public final class HandleModels {
             }
         }
 
-        /** The VALUES of the depth below, emptied for the next STEP there. */
+        /** The VALUES of the next depth, emptied for a STEP there; no STEP changes those of its own depth. */
         private Values opened(int depth) {
             Values next = frames[depth + 1];
             next.cutTo(0);
@@ -1010,10 +1010,9 @@ public final class HandleModels {
         private int performRound(Parts parts, int depth) {
             opened(depth);
             int failure = perform(parts.h, depth + 1);
-            // A STEP a round: that many rounds are SPENT before the last one, however high the number is.
+            // Each round is a STEP, so however high the number is, a RUN is SPENT before it comes to this bound.
             int rounds = Math.min((int) gotNumber, MOST_STEPS + 1);
             if (failure == FINE) {
-                opened(depth);
                 failure = perform(parts.y, depth + 1);
             }
             for (int k = 0; k < rounds && failure == FINE; k++) {

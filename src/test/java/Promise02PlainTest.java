@@ -152,6 +152,9 @@ public final class Promise02PlainTest {
         c.fails("a ROW of -1", m, make, 5);
         c.ints(m, 21);
         c.fails("a ROW of 21", m, make, 6);
+        c.ints(m, 0);
+        c.gives("a ROW of none", m, make, true, 2, m.told(1));
+        c.due("is empty", m.item(m.told(1) - 1, 0), Checks.UNKNOWN);
         c.ints(m, 20);
         for (int k = m.told(1); k < 60; k++) {
             c.gives("a ROW of 20", m, make, true, 2, k);

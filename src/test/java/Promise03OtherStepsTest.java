@@ -119,6 +119,8 @@ public final class Promise03OtherStepsTest {
         c.values(m, 0, 10, 3, 0);
         c.fails("through x: NULL", m, second, 3);
         c.due("h is not done", m.told(4), 2);
+        c.values(m, 2, 0, 0, 10);
+        c.gives("how long less 10", m, m.other(4, less, length, 0, 0, 0), -6);
         int then = m.other(5, make, length, 0, 0, 0);
         c.ints(m, 7);
         c.gives("a ROW, THEN how long", m, then, 7);
@@ -175,6 +177,11 @@ public final class Promise03OtherStepsTest {
         c.gives("its own", m, m.other(7, fail, same, 0, 144, 0), 144);
         c.gives("any", m, m.other(7, fail, same, 0, 0, 0), 144);
         c.fails("another own one", m, m.other(7, fail, same, 0, 143, 0), 144);
+        int lowest = m.plain(FAIL, INT, 0);
+        int highest = m.plain(FAIL, INT, 99);
+        c.gives("its lowest", m, m.other(7, lowest, same, 0, 100, 0), 100);
+        c.gives("its lowest, of any", m, m.other(7, lowest, same, 0, 0, 0), 100);
+        c.gives("its highest, of any", m, m.other(7, highest, same, 0, 0, 0), 199);
         int again = m.other(1, m.plain(FAIL, INT, 2), 0, 0, 0, INT);
         c.fails("x FAILS", m, m.other(7, fail, again, 0, 0, 0), 102);
         notCaught();
@@ -286,9 +293,30 @@ public final class Promise03OtherStepsTest {
         c.due("y is not done", m.told(5), 2);
         c.fails("y FAILS", m, m.other(9, count, less, fail, 0, 0), 100);
         c.due("n is done", m.told(5), 3);
+        roundBehindOthers();
         int by = m.plain(BY, 0, 0);
         c.fails("x FAILS at round 0", m, m.other(9, twelve, by, one, 0, 0), 1);
         c.due("ROUND, n, y and one", m.told(4), 4);
+    }
+
+    /** n and y take nothing, whatever VALUES the STEP ahead of them had. */
+    private static void roundBehindOthers() {
+        HandleModels m = new HandleModels();
+        int plus = m.plain(PLUS, 0, 0);
+        int two = m.other(12, m.other(2, m.plain(GIVE, INT, 2), 0, 0, 0, 0), m.plain(GIVE, INT, 0), 0, 0, 0);
+        c.ints(m, 3, 4);
+        int seven = m.other(0, plus, 0, 0, 0, 0);
+        c.ints(m, 4);
+        seven = m.other(0, seven, 0, 0, 0, 0);
+        int round = m.other(9, two, plus, two, 0, 0);
+        int ofRound = m.other(9, seven, plus, round, 0, 0);
+        m.clear();
+        c.gives("two times from two: 2 + 0 + 1", m, round, 3);
+        int ofNone = m.other(11, m.plain(LENGTH, 0, 0), 0, 0, 0, 0);
+        c.gives("a RUN that leaves VALUES", m, seven, 7);
+        c.gives("n is how long an empty ROW is", m, m.other(9, ofNone, plus, ofNone, 0, 0), 0);
+        c.gives("seven times from three", m, ofRound, 3 + 21);
+        c.gives("THEN a ROUND", m, m.other(5, m.other(12, seven, m.plain(GIVE, VOID, 0), 0, 0, 0), round, 0, 0, 0), 3);
     }
 
     private static void spread() {

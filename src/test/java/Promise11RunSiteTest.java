@@ -10,6 +10,8 @@ public final class Promise11RunSiteTest {
         startsAgain();
         valuesFirst();
         steps();
+        starterTakesNothing();
+        deepStarter();
         c.end();
     }
 
@@ -84,11 +86,11 @@ public final class Promise11RunSiteTest {
         c.due("is LINKED", m.linked(s), fail);
         c.due("STARTER and HANDLE", m.told(4), 2);
         int later = m.site(m.plain(0, INT, 1), count);
-        runFails("2: a HANDLE gives 1, is alike", m, s, true, 105);
+        runFails("LINKED to it still", m, s, true, 105);
         runs("LINKED to 2", m, later, 1);
         c.due("2", m.linked(later), 2);
         int third = m.site(m.plain(0, LONG, 1), count);
-        runFails("3 is a LONG's? no: 3 gives LONG", m, m.site(fail, m.plain(0, INT, 3)), true, 8);
+        runFails("3 gives a LONG: LINK", m, m.site(fail, m.plain(0, INT, 3)), true, 8);
         c.due("3 fits the third", m.runSite(third, true), 1);
         c.due("3", m.linked(third), 3);
         int fourth = m.site(m.plain(0, LONG, 1), count);
@@ -134,5 +136,36 @@ public final class Promise11RunSiteTest {
         int spent = m.site(nought, m.other(9, m.plain(0, INT, 99), plus, nought, 0, 0));
         runFails("the STARTER is SPENT", m, spent, true, 9);
         c.due("not LINKED", m.linked(spent), Checks.NONE);
+    }
+
+    /** The STARTER has no VALUES, and those of the RUN are as they were behind it. */
+    private static void starterTakesNothing() {
+        HandleModels m = new HandleModels();
+        int less = m.plain(3, 0, 0);
+        int left = m.other(1, m.other(1, less, 0, 0, 0, LONG), 0, 0, 3, 3);
+        int number = m.plain(0, INT, left);
+        int starter = m.other(2, m.other(12, number, number, 0, 0, 0), 0, 0, 0, 0);
+        m.row(1);
+        c.values(m, 1, 5, 0, 9, 0, 2, 2, 0);
+        c.due("a RUN with VALUES at all depths", m.run(left, true), 1);
+        int s = m.site(left, starter);
+        runs("9 less 2", m, s, 7);
+        c.due("three of the STARTER, three of the HANDLE", m.told(4), 6);
+        int other = m.site(left, starter);
+        c.values(m, 0, 5, 0, 9, 0, 2, 3, 0);
+        c.due("adapting", m.runSite(other, false), 1);
+        c.due("9 less 2 again", m.result(), 7);
+    }
+
+    private static void deepStarter() {
+        HandleModels m = new HandleModels();
+        int starter = m.plain(0, INT, 0);
+        for (int k = 1; k < 60; k++) {
+            starter = m.other(2, starter, 0, 0, 0, 0);
+        }
+        int s = m.site(starter, starter);
+        runs("60 HANDLES within another", m, s, 0);
+        c.due("LINKED to the first one", m.linked(s), 0);
+        c.due("60 STEPS and one", m.told(4), 61);
     }
 }

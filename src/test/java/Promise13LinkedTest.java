@@ -16,6 +16,11 @@ public final class Promise13LinkedTest {
         c.due("the other one is not", m.linked(b), Checks.NONE);
         m.runSite(b, false);
         c.due("LINKED to 0", m.linked(b), 0);
+        for (int k = m.told(2); k < 10; k++) {
+            m.site(one, one);
+        }
+        c.due("the last SITE", m.linked(9), Checks.NONE);
+        c.due("none behind it", m.linked(10), Checks.UNKNOWN);
         c.end();
     }
 }
