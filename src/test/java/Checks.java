@@ -7,13 +7,36 @@ final class Checks {
 
     private int wrong = 0;
     private int looked = 0;
+    private String sentence = "";
+
+    /** The sentence of the document that the next answers are due by. */
+    void says(String text) {
+        sentence = "\"" + text + "\": ";
+    }
 
     void due(String what, long got, long want) {
         looked++;
         if (got != want) {
             wrong++;
-            System.out.println(what + " answered " + got + ", due is " + want);
+            System.out.println(sentence + what + " answered " + got + ", due is " + want);
         }
+    }
+
+    /** A HANDLE with TYPES, put together of LEFT ones: it takes these, gives the last one, and FAILS by 100. */
+    int shape(HandleModels m, int... types) {
+        int h = m.plain(12, types[types.length - 1], 0);
+        for (int k = 0; k < types.length - 1; k++) {
+            h = m.other(1, h, 0, 0, k, types[k]);
+        }
+        due("a shape is made", h >= 0 ? 1 : h, 1);
+        return h;
+    }
+
+    /** The RESULT of an item. */
+    void item(String what, HandleModels m, int row, int k, int number) {
+        due(what + ", item", m.item(row, k), 1);
+        due(what + ", its kind", m.resultKind(), INT);
+        due(what + ", its number", m.result(), number);
     }
 
     /** INTS at hand, as many as are named, and no others. */

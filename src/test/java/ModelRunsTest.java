@@ -4,14 +4,16 @@ import java.util.Random;
 
 /** Long runs of calls from fixed seeds: each answer, and all that can be told, as Model has it. */
 public final class ModelRunsTest {
-    private static final int RUNS = 3000;
-    private static final int CALLS = 512;
+    private static final int RUNS = 8000;
+    /** An object is good for 512 calls; one round of play takes fewer than 30. */
+    private static final int CALLS = 512 - 30;
     private static final int[] ODD = {Integer.MIN_VALUE, -100, -2, -1, 7, 8, 14, 20, 21, 60, 99, 100, 199, 200, Integer.MAX_VALUE};
 
     private final Random random;
     private final HandleModels mine = new HandleModels();
     private final Model model = new Model();
     private final List<String> calls = new ArrayList<>();
+    private int used = 0;
     private boolean wrong = false;
     private static final int[] failures = new int[200];
     private static final int[] formsDone = new int[13];
@@ -45,13 +47,16 @@ public final class ModelRunsTest {
 
     private boolean play() {
         int made = 0;
-        while (calls.size() < CALLS && !wrong) {
+        while (used < CALLS && !wrong) {
             // Few calls make HANDLES at the end, so that those there are run with many VALUES.
             int what = random.nextInt(made < 40 ? 20 : 26);
             made++;
             one(what);
-            same("told", 0, 0);
+            if (made % 16 == 0) {
+                sameInAll();
+            }
         }
+        sameInAll();
         if (wrong) {
             System.out.println(String.join("\n", calls));
         }
@@ -91,22 +96,27 @@ public final class ModelRunsTest {
     }
 
     private void same(String call, long got, long want) {
+        used++;
         calls.add(call + " = " + want);
         if (got != want) {
             wrong = true;
             calls.add("but answered " + got);
         }
+    }
+
+    private void sameRun(String call, long got, long want) {
+        same(call, got, want);
+        same("told(4)", mine.told(4), model.told(4));
+        same("resultKind()", mine.resultKind(), model.resultKind());
+        same("result()", mine.result(), model.result());
+    }
+
+    private void sameInAll() {
         for (int what = 0; what <= 6; what++) {
-            if (mine.told(what) != model.told(what)) {
-                wrong = true;
-                calls.add("told " + what + " answered " + mine.told(what) + ", due is " + model.told(what));
-            }
+            same("told(" + what + ")", mine.told(what), model.told(what));
         }
-        if (mine.result() != model.result() || mine.resultKind() != model.resultKind()) {
-            wrong = true;
-            calls.add("result " + mine.resultKind() + " " + mine.result()
-                + ", due is " + model.resultKind() + " " + model.result());
-        }
+        same("resultKind()", mine.resultKind(), model.resultKind());
+        same("result()", mine.result(), model.result());
     }
 
     private void plain() {
@@ -199,10 +209,10 @@ public final class ModelRunsTest {
         int want;
         if (ofSite) {
             want = model.runSite(s, exact);
-            same("runSite(" + s + ", " + exact + ")", mine.runSite(s, exact), want);
+            sameRun("runSite(" + s + ", " + exact + ")", mine.runSite(s, exact), want);
         } else {
             want = model.run(h, exact);
-            same("run(" + h + ", " + exact + ")", mine.run(h, exact), want);
+            sameRun("run(" + h + ", " + exact + ")", mine.run(h, exact), want);
         }
         if (want == 1 || want <= -10) {
             failures[want == 1 ? 0 : -10 - want]++;

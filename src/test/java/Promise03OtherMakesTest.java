@@ -20,16 +20,6 @@ public final class Promise03OtherMakesTest {
         c.end();
     }
 
-    /** A HANDLE with TYPES, put together of LEFT ones: it takes these, and gives the last one. */
-    private static int shape(HandleModels m, int... types) {
-        int h = m.plain(FAIL, types[types.length - 1], 0);
-        for (int k = 0; k < types.length - 1; k++) {
-            h = m.other(1, h, 0, 0, k, types[k]);
-        }
-        c.types("a shape", m, h, types);
-        return h;
-    }
-
     private static void unknown() {
         HandleModels m = new HandleModels();
         m.plain(SAME, INT, 0);
@@ -102,17 +92,17 @@ public final class Promise03OtherMakesTest {
         c.types("first", m, m.other(1, item, 0, 0, 0, BOX), BOX, ROW, INT, INT);
         c.types("middle", m, m.other(1, item, 0, 0, 1, LONG), ROW, LONG, INT, INT);
         c.types("last", m, m.other(1, item, 0, 0, 2, ROW), ROW, INT, ROW, INT);
-        int six = shape(m, INT, INT, INT, INT, INT, INT, INT);
+        int six = c.shape(m, INT, INT, INT, INT, INT, INT, INT);
         c.due("more than 6", m.other(1, six, 0, 0, 6, 0), Checks.STATE);
         c.due("place 7", m.other(1, six, 0, 0, 7, 0), Checks.OUTSIDE);
     }
 
     private static void moved() {
         HandleModels m = new HandleModels();
-        int three = shape(m, INT, LONG, ROW, BOX);
+        int three = c.shape(m, INT, LONG, ROW, BOX);
         int none = m.plain(GIVE, INT, 0);
         int one = m.plain(SAME, LONG, 0);
-        int six = shape(m, INT, LONG, BOX, ROW, INT, LONG, VOID);
+        int six = c.shape(m, INT, LONG, BOX, ROW, INT, LONG, VOID);
         c.types("as they are", m, m.other(2, three, 0, 0, 12, 0), INT, LONG, ROW, BOX);
         c.types("VALUE 0 of h is at place 2", m, m.other(2, three, 0, 0, 201, 0), LONG, ROW, INT, BOX);
         c.types("back", m, m.other(2, three, 0, 0, 210, 0), ROW, LONG, INT, BOX);
@@ -132,18 +122,18 @@ public final class Promise03OtherMakesTest {
 
     private static void folded() {
         HandleModels m = new HandleModels();
-        int h = shape(m, INT, LONG, ROW, BOX);
+        int h = c.shape(m, INT, LONG, ROW, BOX);
         int none = m.plain(GIVE, INT, 0);
-        c.types("all behind", m, m.other(3, h, shape(m, LONG, ROW, INT), 0, 0, 0), LONG, ROW, BOX);
-        c.types("its first ones", m, m.other(3, h, shape(m, LONG, INT), 0, 0, 0), LONG, ROW, BOX);
+        c.types("all behind", m, m.other(3, h, c.shape(m, LONG, ROW, INT), 0, 0, 0), LONG, ROW, BOX);
+        c.types("its first ones", m, m.other(3, h, c.shape(m, LONG, INT), 0, 0, 0), LONG, ROW, BOX);
         c.types("none of them", m, m.other(3, h, none, 0, 0, 0), LONG, ROW, BOX);
-        c.types("VOID, all", m, m.other(3, h, shape(m, INT, LONG, ROW, VOID), 0, 0, 0), INT, LONG, ROW, BOX);
-        c.types("VOID, its first one", m, m.other(3, h, shape(m, INT, VOID), 0, 0, 0), INT, LONG, ROW, BOX);
-        c.types("VOID ahead of none", m, m.other(3, none, shape(m, VOID), 0, 0, 0), INT);
-        c.due("not the first ones", m.other(3, h, shape(m, ROW, INT), 0, 0, 0), Checks.STATE);
-        c.due("too many", m.other(3, h, shape(m, LONG, ROW, INT, INT), 0, 0, 0), Checks.STATE);
-        c.due("gives another TYPE", m.other(3, h, shape(m, LONG, LONG), 0, 0, 0), Checks.STATE);
-        c.due("VOID, behind its first one", m.other(3, h, shape(m, LONG, VOID), 0, 0, 0), Checks.STATE);
+        c.types("VOID, all", m, m.other(3, h, c.shape(m, INT, LONG, ROW, VOID), 0, 0, 0), INT, LONG, ROW, BOX);
+        c.types("VOID, its first one", m, m.other(3, h, c.shape(m, INT, VOID), 0, 0, 0), INT, LONG, ROW, BOX);
+        c.types("VOID ahead of none", m, m.other(3, none, c.shape(m, VOID), 0, 0, 0), INT);
+        c.due("not the first ones", m.other(3, h, c.shape(m, ROW, INT), 0, 0, 0), Checks.STATE);
+        c.due("too many", m.other(3, h, c.shape(m, LONG, ROW, INT, INT), 0, 0, 0), Checks.STATE);
+        c.due("gives another TYPE", m.other(3, h, c.shape(m, LONG, LONG), 0, 0, 0), Checks.STATE);
+        c.due("VOID, behind its first one", m.other(3, h, c.shape(m, LONG, VOID), 0, 0, 0), Checks.STATE);
         c.due("h takes none", m.other(3, none, none, 0, 0, 0), Checks.STATE);
     }
 
@@ -162,9 +152,9 @@ public final class Promise03OtherMakesTest {
         c.due("h takes none", m.other(4, none, length, 0, 0, 0), Checks.OUTSIDE);
         c.due("x takes none", m.other(4, item, none, 0, 1, 0), Checks.STATE);
         c.due("x takes two", m.other(4, item, plus, 0, 1, 0), Checks.STATE);
-        c.types("THEN", m, m.other(5, shape(m, LONG, BOX, ROW), length, 0, 0, 0), LONG, BOX, INT);
+        c.types("THEN", m, m.other(5, c.shape(m, LONG, BOX, ROW), length, 0, 0, 0), LONG, BOX, INT);
         c.types("THEN of VOID", m, m.other(5, put, none, 0, 0, 0), ROW, INT, INT, INT);
-        c.types("THEN VOID", m, m.other(5, none, shape(m, INT, VOID), 0, 0, 0), VOID);
+        c.types("THEN VOID", m, m.other(5, none, c.shape(m, INT, VOID), 0, 0, 0), VOID);
         c.types("VOID THEN VOID", m, m.other(5, empty, empty, 0, 0, 0), VOID);
         c.due("THEN of another TYPE", m.other(5, plus, length, 0, 0, 0), Checks.STATE);
         c.due("THEN x takes two", m.other(5, plus, plus, 0, 0, 0), Checks.STATE);
@@ -174,25 +164,25 @@ public final class Promise03OtherMakesTest {
 
     private static void chosen() {
         HandleModels m = new HandleModels();
-        int x = shape(m, INT, ROW, LONG);
-        int y = shape(m, INT, ROW, LONG);
+        int x = c.shape(m, INT, ROW, LONG);
+        int y = c.shape(m, INT, ROW, LONG);
         int none = m.plain(GIVE, INT, 0);
         c.types("takes none", m, m.other(6, none, x, y, 0, 0), INT, ROW, LONG);
-        c.types("takes the first one", m, m.other(6, shape(m, INT, INT), x, y, 0, 0), INT, ROW, LONG);
-        c.types("takes all", m, m.other(6, shape(m, INT, ROW, INT), x, x, 0, 0), INT, ROW, LONG);
-        c.due("gives a LONG", m.other(6, shape(m, INT, LONG), x, y, 0, 0), Checks.STATE);
-        c.due("takes another one", m.other(6, shape(m, ROW, INT), x, y, 0, 0), Checks.STATE);
-        c.due("takes more", m.other(6, shape(m, INT, ROW, INT, INT), x, y, 0, 0), Checks.STATE);
-        c.due("y takes other ones", m.other(6, none, x, shape(m, INT, LONG), 0, 0), Checks.STATE);
-        c.due("y takes others", m.other(6, none, x, shape(m, INT, BOX, LONG), 0, 0), Checks.STATE);
-        c.due("y gives another one", m.other(6, none, x, shape(m, INT, ROW, VOID), 0, 0), Checks.STATE);
+        c.types("takes the first one", m, m.other(6, c.shape(m, INT, INT), x, y, 0, 0), INT, ROW, LONG);
+        c.types("takes all", m, m.other(6, c.shape(m, INT, ROW, INT), x, x, 0, 0), INT, ROW, LONG);
+        c.due("gives a LONG", m.other(6, c.shape(m, INT, LONG), x, y, 0, 0), Checks.STATE);
+        c.due("takes another one", m.other(6, c.shape(m, ROW, INT), x, y, 0, 0), Checks.STATE);
+        c.due("takes more", m.other(6, c.shape(m, INT, ROW, INT, INT), x, y, 0, 0), Checks.STATE);
+        c.due("y takes other ones", m.other(6, none, x, c.shape(m, INT, LONG), 0, 0), Checks.STATE);
+        c.due("y takes others", m.other(6, none, x, c.shape(m, INT, BOX, LONG), 0, 0), Checks.STATE);
+        c.due("y gives another one", m.other(6, none, x, c.shape(m, INT, ROW, VOID), 0, 0), Checks.STATE);
     }
 
     private static void caughtAndEnded() {
         HandleModels m = new HandleModels();
-        int h = shape(m, LONG, ROW, BOX);
-        int x = shape(m, INT, LONG, ROW, BOX);
-        int last = shape(m, INT, LONG, ROW, VOID);
+        int h = c.shape(m, LONG, ROW, BOX);
+        int x = c.shape(m, INT, LONG, ROW, BOX);
+        int last = c.shape(m, INT, LONG, ROW, VOID);
         for (int a : new int[] {0, 1, 6, 100, 199}) {
             c.types("CAUGHT by " + a, m, m.other(7, h, x, 0, a, 0), LONG, ROW, BOX);
         }
@@ -201,11 +191,11 @@ public final class Promise03OtherMakesTest {
         }
         c.due("CAUGHT, gives another one", m.other(7, h, last, 0, 0, 0), Checks.STATE);
         c.due("CAUGHT, takes no number", m.other(7, h, h, 0, 0, 0), Checks.STATE);
-        c.due("CAUGHT, takes but some", m.other(7, h, shape(m, INT, LONG, BOX), 0, 0, 0), Checks.STATE);
+        c.due("CAUGHT, takes but some", m.other(7, h, c.shape(m, INT, LONG, BOX), 0, 0, 0), Checks.STATE);
         c.types("ENDED", m, m.other(8, h, last, 0, 0, 0), LONG, ROW, BOX);
         c.due("ENDED is not VOID", m.other(8, h, x, 0, 0, 0), Checks.STATE);
-        c.due("ENDED, takes a LONG first", m.other(8, h, shape(m, LONG, LONG, ROW, VOID), 0, 0, 0), Checks.STATE);
-        int six = shape(m, INT, INT, INT, INT, INT, INT, VOID);
+        c.due("ENDED, takes a LONG first", m.other(8, h, c.shape(m, LONG, LONG, ROW, VOID), 0, 0, 0), Checks.STATE);
+        int six = c.shape(m, INT, INT, INT, INT, INT, INT, VOID);
         c.due("CAUGHT, no x takes 7", m.other(7, six, six, 0, 0, 0), Checks.STATE);
         c.due("ENDED, no x takes 7", m.other(8, six, six, 0, 0, 0), Checks.STATE);
     }
@@ -213,26 +203,26 @@ public final class Promise03OtherMakesTest {
     private static void round() {
         HandleModels m = new HandleModels();
         int n = m.plain(GIVE, INT, 3);
-        int x = shape(m, LONG, INT, LONG);
+        int x = c.shape(m, LONG, INT, LONG);
         int y = m.plain(GIVE, LONG, 0);
         int empty = m.plain(GIVE, VOID, 0);
         c.types("ROUND", m, m.other(9, n, x, y, 0, 0), LONG);
         c.due("n is a LONG", m.other(9, y, x, y, 0, 0), Checks.STATE);
-        c.due("n takes one", m.other(9, shape(m, INT, INT), x, y, 0, 0), Checks.STATE);
+        c.due("n takes one", m.other(9, c.shape(m, INT, INT), x, y, 0, 0), Checks.STATE);
         c.due("y gives another one", m.other(9, n, x, n, 0, 0), Checks.STATE);
-        c.due("y takes one", m.other(9, n, x, shape(m, INT, LONG), 0, 0), Checks.STATE);
-        c.due("x gives another one", m.other(9, n, shape(m, LONG, INT, INT), y, 0, 0), Checks.STATE);
-        c.due("x takes no number", m.other(9, n, shape(m, LONG, LONG), y, 0, 0), Checks.STATE);
-        c.due("x takes a LONG second", m.other(9, n, shape(m, LONG, LONG, LONG), y, 0, 0), Checks.STATE);
-        c.due("x takes three", m.other(9, n, shape(m, LONG, INT, INT, LONG), y, 0, 0), Checks.STATE);
-        c.due("VOID", m.other(9, n, shape(m, INT, VOID), empty, 0, 0), Checks.STATE);
+        c.due("y takes one", m.other(9, n, x, c.shape(m, INT, LONG), 0, 0), Checks.STATE);
+        c.due("x gives another one", m.other(9, n, c.shape(m, LONG, INT, INT), y, 0, 0), Checks.STATE);
+        c.due("x takes no number", m.other(9, n, c.shape(m, LONG, LONG), y, 0, 0), Checks.STATE);
+        c.due("x takes a LONG second", m.other(9, n, c.shape(m, LONG, LONG, LONG), y, 0, 0), Checks.STATE);
+        c.due("x takes three", m.other(9, n, c.shape(m, LONG, INT, INT, LONG), y, 0, 0), Checks.STATE);
+        c.due("VOID", m.other(9, n, c.shape(m, INT, VOID), empty, 0, 0), Checks.STATE);
     }
 
     private static void spreadAndGathered() {
         HandleModels m = new HandleModels();
         int plus = m.plain(PLUS, 0, 0);
         int put = m.plain(PUT, 0, 0);
-        int six = shape(m, INT, INT, INT, INT, INT, INT, BOX);
+        int six = c.shape(m, INT, INT, INT, INT, INT, INT, BOX);
         int none = m.plain(GIVE, INT, 0);
         c.types("SPREAD 2", m, m.other(10, plus, 0, 0, 2, 0), ROW, INT);
         c.types("SPREAD 1", m, m.other(10, plus, 0, 0, 1, 0), INT, ROW, INT);
@@ -243,7 +233,7 @@ public final class Promise03OtherMakesTest {
         c.due("SPREAD more than it takes", m.other(10, plus, 0, 0, 3, 0), Checks.STATE);
         c.due("SPREAD, not all INTS", m.other(10, put, 0, 0, 3, 0), Checks.STATE);
         c.due("SPREAD of none", m.other(10, none, 0, 0, 1, 0), Checks.STATE);
-        int last = shape(m, LONG, BOX, ROW, INT);
+        int last = c.shape(m, LONG, BOX, ROW, INT);
         c.types("GATHERED 0", m, m.other(11, last, 0, 0, 0, 0), LONG, BOX, INT);
         c.types("GATHERED 4", m, m.other(11, last, 0, 0, 4, 0), LONG, BOX, INT, INT, INT, INT, INT);
         c.types("GATHERED 5", m, m.other(11, m.plain(LENGTH, 0, 0), 0, 0, 5, 0), INT, INT, INT, INT, INT, INT);
@@ -270,17 +260,17 @@ public final class Promise03OtherMakesTest {
                 int x = m.plain(FAIL, to, 0);
                 c.due("gives " + from + " as " + to, m.other(12, h, x, 0, 0, 0), fits[from][to] ? 2 : Checks.STATE);
                 if (from != VOID && to != VOID) {
-                    int inner = shape(m, to, INT);
-                    int outer = shape(m, from, INT);
+                    int inner = c.shape(m, to, INT);
+                    int outer = c.shape(m, from, INT);
                     int made = m.other(12, inner, outer, 0, 0, 0);
                     c.due("takes " + from + " as " + to, made, fits[from][to] ? outer + 1 : Checks.STATE);
                 }
             }
         }
         HandleModels m = new HandleModels();
-        int made = m.other(12, shape(m, BOX, LONG, ROW, VOID), shape(m, LONG, INT, ROW, BOX), 0, 0, 0);
+        int made = m.other(12, c.shape(m, BOX, LONG, ROW, VOID), c.shape(m, LONG, INT, ROW, BOX), 0, 0, 0);
         c.types("ADAPTED", m, made, LONG, INT, ROW, BOX);
-        c.due("fewer", m.other(12, shape(m, INT, INT), shape(m, INT), 0, 0, 0), Checks.STATE);
-        c.due("more", m.other(12, shape(m, INT), shape(m, INT, INT), 0, 0, 0), Checks.STATE);
+        c.due("fewer", m.other(12, c.shape(m, INT, INT), c.shape(m, INT), 0, 0, 0), Checks.STATE);
+        c.due("more", m.other(12, c.shape(m, INT), c.shape(m, INT, INT), 0, 0, 0), Checks.STATE);
     }
 }
