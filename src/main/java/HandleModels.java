@@ -613,7 +613,7 @@ public final class HandleModels {
             int[] made = new int[h.count()];
             for (int k = 0; k < made.length; k++) {
                 int place = placeAt(order, made.length, k);
-                if (place < made.length) {
+                if (place >= 0 && place < made.length) {
                     made[place] = h.at(k);
                 }
             }
