@@ -573,6 +573,8 @@ public final class EdgesOfOthersDoneTest {
         c.gives("a RUN of NOTHING", m, m.other(2, left, 0, 0, 10, 0), true, 3, 0);
         m.clear();
         c.gives("ROUND of nothing", m, round, 0);
+        int usesNothing = bind(m, m.other(1, m.plain(0, INT, 0), 0, 0, 0, ROW), 3, 0);
+        c.gives("ROUND, where h has NOTHING within", m, m.other(9, usesNothing, m.plain(2, 0, 0), none, 0, 0), 0);
         c.values(m, 3, 0);
         c.gives("FOLDED by one that takes nothing", m, m.other(3, m.other(1, m.plain(1, INT, 0), 0, 0, 1, ROW), none, 0, 0, 0), 0);
         int row = m.plain(1, ROW, 0);
